@@ -1,0 +1,178 @@
+/** Promises 6 (side), 7 (circle), 8 (filter) and 9 (decided). */
+public final class SignsTest {
+    private static final int[] NO_POINTS = {-1, 5, 60, Integer.MIN_VALUE, Integer.MAX_VALUE};
+
+    public static void main(String[] args) {
+        Due due = new Due();
+        sides(due);
+        circles(due);
+        filterSwitch(due);
+        tallies(due);
+        turnBound(due);
+        ringBound(due);
+        sizeIsOfThePointsTold(due);
+        floatsAreRounded(due);
+        due.end();
+    }
+
+    private static void sides(Due due) {
+        OrderJudge x = Due.withPoints(3, 0, 0, 800, 799, -800, -799, 800, 799, 799, 798);
+        due.is("to the right by a hair", x.side(0, 1, 4), -1);
+        due.is("to the left by a hair", x.side(1, 0, 4), 1);
+        due.is("in line", x.side(1, 2, 0), 0);
+        due.is("in line, c is a", x.side(1, 2, 1), 0);
+        due.is("in line, c is EQUAL to b", x.side(0, 1, 3), 0);
+        due.is("a is b", x.side(1, 1, 2), -4);
+        due.is("a and b EQUAL", x.side(1, 3, 2), -4);
+        for (int p : NO_POINTS) {
+            due.is("side(" + p + ", 0, 1)", x.side(p, 0, 1), -2);
+            due.is("side(0, " + p + ", 1)", x.side(0, p, 1), -2);
+            due.is("side(0, 0, " + p + "): BAD ahead of NOT", x.side(0, 0, p), -2);
+        }
+        OrderJudge far = Due.withPoints(1, -800, -800, 800, 800, -800, 800, 800, -800);
+        due.is("far to the left", far.side(0, 1, 2), 1);
+        due.is("far to the right", far.side(0, 1, 3), -1);
+    }
+
+    private static void circles(Due due) {
+        OrderJudge x = Due.withPoints(1, 5, 0, 0, 5, -5, 0, 3, -4, 0, 0);
+        due.is("on it", x.circle(0, 1, 2, 3), 0);
+        due.is("within", x.circle(0, 1, 2, 4), 1);
+        due.is("within, gone round to the right", x.circle(2, 1, 0, 4), 1);
+        due.is("d is a", x.circle(0, 1, 2, 0), 0);
+        due.is("a, b, c in line", x.circle(0, 4, 2, 1), -4);
+        due.is("a, b EQUAL", x.circle(0, 0, 1, 2), -4);
+        due.is("b, c EQUAL", x.circle(0, 1, 1, 2), -4);
+        for (int p : NO_POINTS) {
+            due.is("circle(" + p + ", 0, 1, 2)", x.circle(p, 0, 1, 2), -2);
+            due.is("circle(0, " + p + ", 1, 2)", x.circle(0, p, 1, 2), -2);
+            due.is("circle(0, 1, " + p + ", 2)", x.circle(0, 1, p, 2), -2);
+            due.is("circle(0, 0, 0, " + p + "): BAD ahead of NOT", x.circle(0, 0, 0, p), -2);
+        }
+        OrderJudge far = Due.withPoints(1, 800, 800, -800, 800, -800, -800, 800, -800, 800, -799);
+        due.is("the greatest square", far.circle(0, 1, 2, 3), 0);
+        due.is("just within", far.circle(0, 1, 2, 4), 1);
+        due.is("just outside", far.circle(0, 1, 4, 3), -1);
+        due.is("just outside, to the right", far.circle(1, 0, 4, 3), -1);
+    }
+
+    private static void filterSwitch(Due due) {
+        OrderJudge x = new OrderJudge();
+        due.is("filter(true)", x.filter(true), 1);
+        due.is("filter(false)", x.filter(false), 1);
+        due.is("filter(false), again", x.filter(false), 0);
+        due.is("filter(true), off before", x.filter(true), 0);
+        due.is("filter(true), on before", x.filter(true), 1);
+    }
+
+    private static void tallies(Due due) {
+        OrderJudge x = Due.withPoints(1, 5, 0, 0, 5, -5, 0, 0, -5, 0, 0);
+        x.side(0, 1, 2);
+        due.is("a clear side", x.decided(0), 1);
+        x.circle(0, 1, 2, 4);
+        due.is("a clear circle", x.decided(0), 2);
+        x.side(0, 2, 4);
+        x.circle(0, 1, 2, 3);
+        due.is("0 is never decided", x.decided(0), 2);
+        due.is("so it did not", x.decided(1), 2);
+        due.is("told 0", x.decided(2), 2);
+        x.side(0, 0, 1);
+        x.side(9, 0, 1);
+        x.circle(0, 2, 4, 1);
+        x.circle(0, 1, 2, 9);
+        x.between(0, 4, 2);
+        x.inside(4, 0, 1, 2);
+        x.cross(0, 2, 1, 3);
+        x.separated(0, 1, 2, 3);
+        tally(due, "what is refused, and other calls, count for nothing", x, 2, 2, 2);
+        x.filter(false);
+        x.side(0, 1, 2);
+        x.circle(0, 1, 2, 4);
+        tally(due, "none is decided while it is off", x, 2, 4, 2);
+        x.side(0, 2, 4);
+        tally(due, "told 0 while it is off", x, 2, 5, 3);
+        x.filter(true);
+        x.side(0, 1, 2);
+        tally(due, "on again", x, 3, 5, 3);
+        int[] bad = {-1, 3, Integer.MIN_VALUE, Integer.MAX_VALUE};
+        for (int what : bad) {
+            due.is("decided(" + what + ")", x.decided(what), -2);
+        }
+    }
+
+    private static void tally(Due due, String call, OrderJudge x, int clear, int unclear, int zeros) {
+        due.is(call + ": decided(0)", x.decided(0), clear);
+        due.is(call + ": decided(1)", x.decided(1), unclear);
+        due.is(call + ": decided(2)", x.decided(2), zeros);
+    }
+
+    // SIZE is 512, so that the bound of TURN is 1 itself.
+    private static void turnBound(Due due) {
+        OrderJudge x = Due.withPoints(1, 0, 0, 512, 511, 1, 1, 512, 510, -1, -1);
+        due.is("at the bound", x.side(0, 1, 2), 1);
+        tally(due, "what is just the bound is not more", x, 0, 1, 0);
+        due.is("at the bound, to the right", x.side(0, 1, 4), -1);
+        tally(due, "nor is it without sign", x, 0, 2, 0);
+        due.is("above the bound", x.side(0, 3, 2), 1);
+        tally(due, "2 is more", x, 1, 2, 0);
+        due.is("above the bound, to the right", x.side(0, 3, 4), -1);
+        tally(due, "2 is more, without sign", x, 2, 2, 0);
+        OrderJudge upright = Due.withPoints(1, 0, 0, -511, -512, 1, 1, -510, -512);
+        due.is("SIZE by Y, without sign", upright.side(0, 1, 2), 1);
+        tally(due, "SIZE is of Y too", upright, 0, 1, 0);
+        due.is("SIZE by Y, above", upright.side(0, 3, 2), 1);
+        tally(due, "SIZE is of Y too", upright, 1, 1, 0);
+        OrderJudge origin = Due.withPoints(12, 0, 0, 1, 0, 0, 1, 1, 1);
+        due.is("the least points", origin.side(0, 1, 2), 1);
+        due.is("the least circle", origin.circle(0, 1, 2, 3), 0);
+        tally(due, "small points are as clear as great ones", origin, 1, 1, 1);
+    }
+
+    // SIZE is 16, so that the bound of RING is 16 itself.
+    private static void ringBound(Due due) {
+        OrderJudge x = Due.withPoints(1, -7, -15, -6, -15, 5, -11, 7, 16);
+        due.is("at the bound, d alone makes SIZE", x.circle(0, 1, 2, 3), 1);
+        tally(due, "what is just the bound is not more", x, 0, 1, 0);
+        OrderJudge y = Due.withPoints(1, -9, -16, -8, -11, 2, 12, -4, 1);
+        due.is("at the bound, a makes SIZE", y.circle(0, 1, 2, 3), -1);
+        tally(due, "nor here", y, 0, 1, 0);
+        OrderJudge z = Due.withPoints(1, -5, -10, 5, -13, -6, 16, 4, -13);
+        due.is("18", z.circle(0, 1, 2, 3), 1);
+        tally(due, "18 is more", z, 1, 0, 0);
+        OrderJudge w = Due.withPoints(1, 14, 13, 12, -7, 15, -16, 13, -11);
+        due.is("-18", w.circle(0, 1, 2, 3), -1);
+        tally(due, "18 without sign is more", w, 1, 0, 0);
+    }
+
+    // A far point that the call does not tell leaves its bound alone.
+    private static void sizeIsOfThePointsTold(Due due) {
+        OrderJudge x = Due.withPoints(1, 0, 0, 1, 0, 0, 1, 1, 2, 800, 800);
+        x.side(0, 1, 2);
+        x.circle(0, 1, 2, 3);
+        tally(due, "near points are clear, whatever lies far", x, 2, 0, 0);
+        x.circle(0, 1, 2, 4);
+        tally(due, "a far point that is told widens the bound", x, 2, 1, 0);
+    }
+
+    // Here exact reckoning, or doubles, would find the size on the bound's other side.
+    private static void floatsAreRounded(Due due) {
+        filterCase(due, true, -526, 79, 725, -637, -215, -99);
+        filterCase(due, false, -539, 721, -358, 259, -463, 527);
+        filterCase(due, true, -544, 407, -422, -727, -466, -318);
+        filterCase(due, false, -683, 671, -721, -109, -719, -68);
+        filterCase(due, true, -730, -591, 528, 776, -601, 721, 677, -651);
+        filterCase(due, false, -522, 755, -506, 766, 794, -460, 698, -596);
+        filterCase(due, true, 546, 719, 441, -788, 545, -720, -573, 698);
+        filterCase(due, false, 467, 780, 798, 436, 434, -799, -783, -461);
+    }
+
+    private static void filterCase(Due due, boolean decides, int... thirds) {
+        OrderJudge x = Due.withPoints(3, thirds);
+        if (thirds.length == 6) {
+            x.side(0, 1, 2);
+        } else {
+            x.circle(0, 1, 2, 3);
+        }
+        tally(due, "floats of " + java.util.Arrays.toString(thirds), x, decides ? 1 : 0, decides ? 0 : 1, 0);
+    }
+}
