@@ -32,9 +32,6 @@ public final class OrderJudge {
         if (!isCoordinate(x) || !isCoordinate(y) || !isDown(down)) {
             return BAD;
         }
-        if (points.held >= MOST_POINTS) {
-            return FULL;
-        }
         int factor = SCALE / (int) down;
         return points.add((int) x * factor, (int) y * factor);
     }
@@ -204,7 +201,7 @@ public final class OrderJudge {
         if (points.equal(a, b)) {
             return NOT;
         }
-        return lineSet.held < MOST_LINES ? lineSet.add(a, b) : FULL;
+        return lineSet.add(a, b);
     }
 
     public int lines(int n, int what) {
@@ -400,9 +397,7 @@ public final class OrderJudge {
             if (points.equal(a, d) || points.sameDirection(a, b, d) || points.sameDirection(a, c, d)) {
                 return 2;
             }
-            if (points.sameDirection(a, b, c)) {
-                return 0;
-            }
+            // With b and c in one direction, nothing is to the left of b and to the right of c.
             boolean leftOfB = points.turn(a, b, d) > 0;
             boolean rightOfC = points.turn(a, c, d) < 0;
             // Beyond a half turn the angle is all that the narrow one from c to b leaves.
@@ -484,7 +479,7 @@ public final class OrderJudge {
         }
 
         boolean hasPlace(int i) {
-            return i >= 0 && i < held && i < MOST_PLACES;
+            return i >= 0 && i < held;
         }
 
         int put(int i, int point) {
@@ -716,7 +711,7 @@ public final class OrderJudge {
 
         private void keepDifferent(int n) {
             different = 0;
-            for (int i = 0; i < n && i < MOST_LINES; i++) {
+            for (int i = 0; i < n; i++) {
                 if (isNew(i)) {
                     kept[different] = i;
                     different++;

@@ -55,6 +55,12 @@ public final class FewTest {
         due.is("b is EQUAL to a", y.inside(0, 3, 1, 2), -4);
         due.is("c is EQUAL to a", y.inside(0, 1, 3, 2), -4);
         due.is("c is EQUAL to a, d too", y.inside(0, 1, 3, 0), -4);
+        OrderJudge hair = Due.withPoints(12, 30, -50, 31, -49, 32, -48, 29, -51, 31, -50, 30, -49);
+        due.is("a hair away, one direction", hair.inside(0, 1, 4, 2), 2);
+        due.is("a hair away, the other direction, from b to c the long way", hair.inside(0, 1, 4, 3), 1);
+        due.is("a hair away, the other direction, from b to c the short way", hair.inside(0, 4, 1, 3), 0);
+        due.is("opposite directions, to the left", hair.inside(0, 1, 3, 5), 1);
+        due.is("opposite directions, to the right", hair.inside(0, 1, 3, 4), 0);
         due.is("b and c EQUAL alone is fine", y.inside(0, 1, 1, 6), 0);
         for (int p : NO_POINTS) {
             due.is("inside(" + p + ", 0, 1, 2)", x.inside(p, 0, 1, 2), -2);
@@ -85,6 +91,15 @@ public final class FewTest {
         due.is("a point beside the way", x.cross(2, 2, 0, 1), 0);
         due.is("two points EQUAL", x.cross(0, 0, 6, 6), 2);
         due.is("two points not EQUAL", x.cross(0, 0, 1, 1), 0);
+        int[][] touching = {{0, 1, 4, 2}, {0, 1, 2, 4}, {2, 4, 0, 1}, {4, 2, 0, 1}, {1, 0, 4, 3}, {1, 0, 3, 4}, {3, 4, 1, 0}, {4, 3, 1, 0}};
+        for (int[] t : touching) {
+            due.is("one of four ends within the other way", x.cross(t[0], t[1], t[2], t[3]), 2);
+        }
+        due.is("an end in line with the other way, beyond it", x.cross(0, 4, 1, 2), 0);
+        due.is("an end in line with the other way, before it", x.cross(2, 1, 4, 0), 0);
+        due.is("b in line with the other way, beyond it", x.cross(8, 5, 0, 4), 0);
+        due.is("a in line with the other way, beyond it", x.cross(5, 8, 0, 4), 0);
+        due.is("a point in line, overlap from b on", x.cross(5, 4, 0, 1), 3);
         OrderJudge up = Due.withPoints(2, 0, 0, 0, 5, 0, 2, 0, 9, 0, 7);
         due.is("upright, overlapping", up.cross(0, 1, 3, 2), 3);
         due.is("upright, apart", up.cross(0, 1, 3, 4), 0);

@@ -6,6 +6,7 @@ public final class RowOrdersTest {
         Due due = new Due();
         convexRows(due);
         polygonsAndWindings(due);
+        cornersAtTheHeightOfThePoint(due);
         edgesThatCrossThemselves(due);
         shortRows(due);
         nearestPlaces(due);
@@ -68,6 +69,37 @@ public final class RowOrdersTest {
             due.is("polygon, back, at " + where, x.polygon(5, asked + i), at[i][2]);
             due.is("winding, back, at " + where, x.winding(5, asked + i), at[i][2] == 2 ? 100 : -at[i][2]);
         }
+    }
+
+    // Corners and level edges on both sides, just as high as the points asked for.
+    private static void cornersAtTheHeightOfThePoint(Due due) {
+        OrderJudge x = Due.withPoints(1, -4, 0, 0, -4, 4, 0, 0, 4, 0, 0, -6, 0, 6, 0, 8, -4, 8, 4, 0, 5, 2, 0);
+        Due.putRow(x, 0, 1, 2, 3);
+        due.is("a diamond: its middle", x.winding(4, 4), 1);
+        due.is("a diamond: its middle, odd", x.polygon(4, 4), 1);
+        due.is("a diamond: to the left of it", x.winding(4, 5), 0);
+        due.is("a diamond: to the left of it, even", x.polygon(4, 5), 0);
+        due.is("a diamond: to the right of it", x.winding(4, 6), 0);
+        due.is("a diamond: level with its top", x.winding(4, 8), 0);
+        due.is("a diamond: level with its foot", x.winding(4, 7), 0);
+        due.is("a diamond: above it", x.polygon(4, 9), 0);
+        Due.putRow(x, 3, 2, 1, 0);
+        due.is("a diamond, back: its middle", x.winding(4, 4), -1);
+        due.is("a diamond, back: to the left of it", x.winding(4, 5), 0);
+        // A tooth that comes down to the height of the point, and one that goes up to it.
+        OrderJudge teeth = Due.withPoints(1, 0, -4, 4, 0, 6, -4, 8, 6, 4, 0, 0, 6, 1, 0, 6, 0, -1, 0, 9, 0);
+        Due.putRow(teeth, 0, 1, 2, 3, 4, 5);
+        due.is("teeth: on the left", teeth.winding(6, 6), 1);
+        due.is("teeth: on the right", teeth.polygon(6, 7), 1);
+        due.is("teeth: before them", teeth.polygon(6, 8), 0);
+        due.is("teeth: behind them", teeth.polygon(6, 9), 0);
+        OrderJudge steps = Due.withPoints(1, 0, 0, 2, 0, 2, 3, 5, 3, 5, 6, 0, 6, 1, 3, 6, 3, -1, 3, 3, 4, 3, 2);
+        Due.putRow(steps, 0, 1, 2, 3, 4, 5);
+        due.is("steps: level with an edge, within", steps.winding(6, 6), 1);
+        due.is("steps: level with an edge, to the right", steps.polygon(6, 7), 0);
+        due.is("steps: level with an edge, to the left", steps.polygon(6, 8), 0);
+        due.is("steps: above an edge", steps.polygon(6, 9), 1);
+        due.is("steps: under an edge", steps.polygon(6, 10), 0);
     }
 
     private static void edgesThatCrossThemselves(Due due) {
@@ -141,6 +173,12 @@ public final class RowOrdersTest {
         }
         due.is("the first three alone", x.around(0, 3, 0), 2);
         due.is("the first three alone", x.around(0, 3, 2), 0);
+        OrderJudge hair = Due.withPoints(12, 7, -3, 7, -3, 8, -3, 7, -2, 6, -3, 7, -4, 8, -2, 6, -4);
+        Due.putRow(hair, 7, 6, 5, 4, 3, 2, 1, 0);
+        int[] least = {6, 7, 5, 1, 4, 3, 0, 2};
+        for (int i = 0; i < least.length; i++) {
+            due.is("a hair away: around(0, 8, " + i + ")", hair.around(0, 8, i), least[i]);
+        }
         OrderJudge west = Due.withPoints(1, 0, 0, -2, 0, -1, 0, -800, 1, -800, -1, 800, -1, 800, 1, 1, 0);
         Due.putRow(west, 5, 4, 1, 2, 3, 6, 7);
         int[] round = {6, 5, 4, 3, 2, 1, 0};

@@ -10,8 +10,10 @@ public final class SignsTest {
         tallies(due);
         turnBound(due);
         ringBound(due);
+        eachMakesTheSize(due);
         sizeIsOfThePointsTold(due);
         floatsAreRounded(due);
+        hairsFromTheBound(due);
         due.end();
     }
 
@@ -144,6 +146,25 @@ public final class SignsTest {
         tally(due, "18 without sign is more", w, 1, 0, 0);
     }
 
+    // Each of the points told can make SIZE: with it the bound is above what is clear without it.
+    private static void eachMakesTheSize(Due due) {
+        int[] at = {0, 0, 1, 1, 512, 511};
+        for (int turn = 0; turn < 3; turn++) {
+            int a = turn, b = (turn + 1) % 3, c = (turn + 2) % 3;
+            OrderJudge x = Due.withPoints(1, at);
+            due.is("side, SIZE by another one", x.side(a, b, c), -1);
+            tally(due, "SIZE by point " + turn, x, 0, 1, 0);
+        }
+        int[] ring = {-7, -15, -6, -15, 5, -11, 7, 16};
+        int[] signs = {1, -1, 1, -1};
+        for (int turn = 0; turn < 4; turn++) {
+            OrderJudge x = Due.withPoints(1, ring);
+            x.circle(turn, (turn + 1) % 4, (turn + 2) % 4, (turn + 3) % 4);
+            tally(due, "the RING of these has one size, whichever is d", x, 0, 1, 0);
+            due.is("two and two are not alike", x.circle(turn, (turn + 1) % 4, (turn + 2) % 4, (turn + 3) % 4), signs[turn]);
+        }
+    }
+
     // A far point that the call does not tell leaves its bound alone.
     private static void sizeIsOfThePointsTold(Due due) {
         OrderJudge x = Due.withPoints(1, 0, 0, 1, 0, 0, 1, 1, 2, 800, 800);
@@ -164,6 +185,14 @@ public final class SignsTest {
         filterCase(due, false, -522, 755, -506, 766, 794, -460, 698, -596);
         filterCase(due, true, 546, 719, 441, -788, 545, -720, -573, 698);
         filterCase(due, false, 467, 780, 798, 436, 434, -799, -783, -461);
+    }
+
+    // A bound greater or less by a few millionths of itself would tell otherwise.
+    private static void hairsFromTheBound(Due due) {
+        filterCase(due, true, 541, 261, 724, 250, 641, 255);
+        filterCase(due, true, -657, 219, -724, 193, -693, 205);
+        filterCase(due, false, 554, 570, -600, 720, 77, 632);
+        filterCase(due, false, -511, -62, -512, 432, -512, 431);
     }
 
     private static void filterCase(Due due, boolean decides, int... thirds) {
