@@ -34,8 +34,9 @@ public final class FewTest {
 
     // The points 1 to 8 stand round point 0, from growing X on to the left.
     private static void angles(Due due) {
-        OrderJudge x = Due.withPoints(1, 0, 0, 2, 0, 2, 2, 0, 2, -2, 2, -2, 0, -2, -2, 0, -2, 2, -2);
+        int[] round = {0, 0, 2, 0, 2, 2, 0, 2, -2, 2, -2, 0, -2, -2, 0, -2, 2, -2};
         for (int b = 1; b <= 8; b++) {
+            OrderJudge x = Due.withPoints(1, round);
             for (int c = 1; c <= 8; c++) {
                 for (int d = 1; d <= 8; d++) {
                     int toC = (c - b + 8) % 8, toD = (d - b + 8) % 8;
@@ -44,6 +45,7 @@ public final class FewTest {
                 }
             }
         }
+        OrderJudge x = Due.withPoints(1, round);
         due.is("d is a", x.inside(0, 1, 3, 0), 2);
         OrderJudge y = Due.withPoints(1, 1, 1, 3, 1, 5, 1, 1, 1, 2, 1, 0, 1, 9, 2);
         due.is("d EQUAL to a", y.inside(0, 1, 2, 3), 2);
@@ -113,12 +115,9 @@ public final class FewTest {
     }
 
     private static void separations(Due due) {
-        OrderJudge ring = Due.withPoints(1, 5, 0, 3, 4, 0, 5, -4, 3, -5, 0, -3, -4, 0, -5, 4, -3);
-        orderOnClosedLine(due, "on a circle", ring, 8);
-        OrderJudge slant = Due.withPoints(6, -6, -9, -4, -6, -2, -3, 0, 0, 2, 3, 400, 600);
-        orderOnClosedLine(due, "on a line", slant, 6);
-        OrderJudge upright = Due.withPoints(1, 7, -800, 7, -1, 7, 0, 7, 1, 7, 800);
-        orderOnClosedLine(due, "on an upright line", upright, 5);
+        orderOnClosedLine(due, "on a circle", 1, 5, 0, 3, 4, 0, 5, -4, 3, -5, 0, -3, -4, 0, -5, 4, -3);
+        orderOnClosedLine(due, "on a line", 6, -6, -9, -4, -6, -2, -3, 0, 0, 2, 3, 400, 600);
+        orderOnClosedLine(due, "on an upright line", 1, 7, -800, 7, -1, 7, 0, 7, 1, 7, 800);
         OrderJudge x = Due.withPoints(1, 0, 0, 2, 0, 2, 2, 0, 2, 0, 0, 1, 0, 4, 4, 3, 1);
         due.is("on no circle", x.separated(0, 1, 2, 7), -4);
         due.is("a, b, c in line alone", x.separated(0, 1, 5, 2), -4);
@@ -141,9 +140,11 @@ public final class FewTest {
     }
 
     // The points are numbered as they come along the closed line.
-    private static void orderOnClosedLine(Due due, String where, OrderJudge x, int n) {
+    private static void orderOnClosedLine(Due due, String where, int down, int... xy) {
+        int n = xy.length / 2;
         for (int a = 0; a < n; a++) {
             for (int b = 0; b < n; b++) {
+                OrderJudge x = Due.withPoints(down, xy);
                 for (int c = 0; c < n; c++) {
                     for (int d = 0; d < n; d++) {
                         boolean twice = a == b || a == c || a == d || b == c || b == d || c == d;
