@@ -15,7 +15,7 @@ final class Due {
         }
     }
 
-    /** The class must be that very one: a subclass or a class above it is not as due. */
+    /** The class must be that very one, and thrown by a throw statement: the machine itself never throws. */
     void throwing(String call, Class<? extends RuntimeException> want, Call made) {
         asked++;
         try {
@@ -23,8 +23,15 @@ final class Due {
         } catch (RuntimeException thrown) {
             if (thrown.getClass() != want) {
                 report(call + " threw " + thrown + ", due is throws." + want.getSimpleName());
+            } else if (isOfTheMachine(thrown.getMessage())) {
+                report(call + ": the machine threw " + thrown);
             }
         }
+    }
+
+    // The machine's texts: an index and a length, a division by zero, what was null, a length alone.
+    private static boolean isOfTheMachine(String text) {
+        return text == null || text.matches("Index .*|/ by zero|Cannot .*|-?[0-9]+");
     }
 
     void report(String text) {

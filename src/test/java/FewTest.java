@@ -32,19 +32,13 @@ public final class FewTest {
         }
     }
 
-    // The points 1 to 8 stand round point 0, from growing X on to the left.
     private static void angles(Due due) {
+        anglesAt(due, 0, 0, 1);
+        anglesAt(due, 700, -31, 1);
+        anglesAt(due, -5, 790, 12);
+        anglesAt(due, -800 + 9, -3, 6);
+        farFromTheCorner(due);
         int[] round = {0, 0, 2, 0, 2, 2, 0, 2, -2, 2, -2, 0, -2, -2, 0, -2, 2, -2};
-        for (int b = 1; b <= 8; b++) {
-            OrderJudge x = Due.withPoints(1, round);
-            for (int c = 1; c <= 8; c++) {
-                for (int d = 1; d <= 8; d++) {
-                    int toC = (c - b + 8) % 8, toD = (d - b + 8) % 8;
-                    int want = d == b || d == c ? 2 : toD < toC ? 1 : 0;
-                    due.is("inside(0, " + b + ", " + c + ", " + d + ")", x.inside(0, b, c, d), want);
-                }
-            }
-        }
         OrderJudge x = Due.withPoints(1, round);
         due.is("d is a", x.inside(0, 1, 3, 0), 2);
         OrderJudge y = Due.withPoints(1, 1, 1, 3, 1, 5, 1, 1, 1, 2, 1, 0, 1, 9, 2);
@@ -64,12 +58,44 @@ public final class FewTest {
         due.is("opposite directions, to the left", hair.inside(0, 1, 3, 5), 1);
         due.is("opposite directions, to the right", hair.inside(0, 1, 3, 4), 0);
         due.is("b and c EQUAL alone is fine", y.inside(0, 1, 1, 6), 0);
+        due.is("a hair away, d is b", hair.inside(0, 4, 5, 4), 2);
+        due.is("a hair away, d is c", hair.inside(0, 4, 5, 5), 2);
+        due.is("a hair away, d, b and c are one", hair.inside(0, 5, 5, 5), 2);
         for (int p : NO_POINTS) {
             due.is("inside(" + p + ", 0, 1, 2)", x.inside(p, 0, 1, 2), -2);
             due.is("inside(0, " + p + ", 1, 2)", x.inside(0, p, 1, 2), -2);
             due.is("inside(0, 1, " + p + ", 2)", x.inside(0, 1, p, 2), -2);
             due.is("inside(0, 0, 0, " + p + "): BAD ahead of NOT", x.inside(0, 0, 0, p), -2);
         }
+    }
+
+    // The points 1 to 16 stand round point 0, at the corner (x, y), from growing X on to the left.
+    private static void anglesAt(Due due, int x0, int y0, int down) {
+        int[][] round = {{1, 0}, {9, 2}, {3, 3}, {1, 7}, {0, 2}, {-1, 8}, {-1, 1}, {-9, 4}, {-3, 0}, {-9, -1}, {-2, -2}, {-2, -9}, {0, -1}, {2, -9}, {1, -1}, {9, -1}};
+        for (int b = 1; b <= 16; b++) {
+            for (int c = 1; c <= 16; c++) {
+                OrderJudge x = Due.withPoints(down, x0, y0);
+                for (int[] r : round) {
+                    x.point(x0 + r[0], y0 + r[1], down);
+                }
+                for (int d = 1; d <= 16; d++) {
+                    int toC = (c - b + 16) % 16, toD = (d - b + 16) % 16;
+                    int want = d == b || d == c ? 2 : toD < toC ? 1 : 0;
+                    due.is("inside(0, " + b + ", " + c + ", " + d + ") at (" + x0 + ", " + y0 + ")", x.inside(0, b, c, d), want);
+                }
+            }
+        }
+    }
+
+    // Directions that differ by the least, with points at the farthest: the same direction at other lengths is one.
+    private static void farFromTheCorner(Due due) {
+        OrderJudge x = Due.withPoints(12, -800, -800, 800, 799, 799, 798, 0, 0, 800, 800, -799, -799);
+        due.is("the least angle: just within it", x.inside(0, 1, 4, 3), 2);
+        due.is("the least angle: a hair to the right of b", x.inside(0, 1, 4, 2), 0);
+        due.is("the least angle, the long way: a hair to the right of b", x.inside(0, 4, 1, 2), 1);
+        due.is("the least angle, wider: b's neighbour within", x.inside(0, 2, 4, 1), 1);
+        due.is("the direction of c, a hair from the corner", x.inside(0, 1, 4, 5), 2);
+        due.is("the direction of b, farther", x.inside(0, 5, 1, 4), 2);
     }
 
     private static void crossings(Due due) {

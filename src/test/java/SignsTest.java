@@ -14,6 +14,10 @@ public final class SignsTest {
         sizeIsOfThePointsTold(due);
         floatsAreRounded(due);
         hairsFromTheBound(due);
+        orderOfTurn(due);
+        dividedByTwelve(due);
+        orderOfRing(due);
+        orderOfTheBound(due);
         due.end();
     }
 
@@ -177,31 +181,70 @@ public final class SignsTest {
 
     // Here exact reckoning, or doubles, would find the size on the bound's other side.
     private static void floatsAreRounded(Due due) {
-        filterCase(due, true, -526, 79, 725, -637, -215, -99);
-        filterCase(due, false, -539, 721, -358, 259, -463, 527);
-        filterCase(due, true, -544, 407, -422, -727, -466, -318);
-        filterCase(due, false, -683, 671, -721, -109, -719, -68);
-        filterCase(due, true, -730, -591, 528, 776, -601, 721, 677, -651);
-        filterCase(due, false, -522, 755, -506, 766, 794, -460, 698, -596);
-        filterCase(due, true, 546, 719, 441, -788, 545, -720, -573, 698);
-        filterCase(due, false, 467, 780, 798, 436, 434, -799, -783, -461);
+        filterCase(due, true, 3, -526, 79, 725, -637, -215, -99);
+        filterCase(due, false, 3, -539, 721, -358, 259, -463, 527);
+        filterCase(due, true, 3, -544, 407, -422, -727, -466, -318);
+        filterCase(due, false, 3, -683, 671, -721, -109, -719, -68);
+        filterCase(due, true, 3, -730, -591, 528, 776, -601, 721, 677, -651);
+        filterCase(due, false, 3, -522, 755, -506, 766, 794, -460, 698, -596);
+        filterCase(due, true, 3, 546, 719, 441, -788, 545, -720, -573, 698);
+        filterCase(due, false, 3, 467, 780, 798, 436, 434, -799, -783, -461);
     }
 
     // A bound greater or less by a few millionths of itself would tell otherwise.
     private static void hairsFromTheBound(Due due) {
-        filterCase(due, true, 541, 261, 724, 250, 641, 255);
-        filterCase(due, true, -657, 219, -724, 193, -693, 205);
-        filterCase(due, false, 554, 570, -600, 720, 77, 632);
-        filterCase(due, false, -511, -62, -512, 432, -512, 431);
+        filterCase(due, true, 3, 541, 261, 724, 250, 641, 255);
+        filterCase(due, true, 3, -657, 219, -724, 193, -693, 205);
+        filterCase(due, false, 3, 554, 570, -600, 720, 77, 632);
+        filterCase(due, false, 3, -511, -62, -512, 432, -512, 431);
+        filterCase(due, true, 12, 711, 706, 719, 724, 712, 708);
+        filterCase(due, true, 6, 574, 708, 581, 724, 573, 706);
+        filterCase(due, false, 4, -495, 497, -512, 492, -502, 495);
+        filterCase(due, true, 1, 178, -203, -108, -11, -105, -163, 89, -254);
+        filterCase(due, true, 3, -165, -678, 90, 356, -349, -432, -182, -664);
+        filterCase(due, false, 4, -40, 6, 107, -75, 128, -61, 37, 115);
     }
 
-    private static void filterCase(Due due, boolean decides, int... thirds) {
-        OrderJudge x = Due.withPoints(3, thirds);
-        if (thirds.length == 6) {
+    // "in the order told": TURN seen from c, or reckoned of X, Y without the division, would tell otherwise.
+    private static void orderOfTurn(Due due) {
+        filterCase(due, false, 6, -90, 724, -131, -114, -122, 70);
+        filterCase(due, true, 3, -311, 404, 250, -516, 225, -475);
+        filterCase(due, false, 12, 10, 3, 212, 665, 230, 724);
+        filterCase(due, true, 12, -726, 626, 238, -207, -152, 130);
+    }
+
+    // "(float) X / 12.0f": X times a twelfth would tell otherwise.
+    private static void dividedByTwelve(Due due) {
+        filterCase(due, false, 6, 512, -342, 508, -339, 509, -340);
+        filterCase(due, true, 3, 512, -272, 511, -276, 512, -273);
+        filterCase(due, false, 3, 501, -548, 434, -508, 545, 563, 217, -242);
+        filterCase(due, true, 12, 569, -569, -124, 520, 147, 365, 535, -224);
+    }
+
+    // "in the order told": (A + C) + B, A + (B + C), or the differences to a in place of d, would tell otherwise.
+    private static void orderOfRing(Due due) {
+        filterCase(due, false, 3, -36, 174, -403, -189, -251, -690, 446, 35);
+        filterCase(due, true, 3, 200, 110, -156, 2, 145, -70, -64, 234);
+        filterCase(due, false, 3, -149, -500, 227, 431, -158, 286, 675, -363);
+        filterCase(due, true, 2, -601, 156, -624, 696, 317, 45, 466, 574);
+        filterCase(due, true, 12, 585, -258, -584, 519, 382, 662, -618, -292);
+        filterCase(due, false, 6, 610, 353, -377, 444, -395, 319, 307, -152);
+        filterCase(due, true, 6, 64, -34, -53, 71, -10, -9, 176, 70);
+    }
+
+    // "(SIZE * SIZE) * (SIZE * SIZE) * ..": SIZE * SIZE * SIZE * SIZE, or a bound that is not rounded, would tell otherwise.
+    private static void orderOfTheBound(Due due) {
+        filterCase(due, true, 6, 42, -106, 130, -185, 11, -42, 91, -159);
+        filterCase(due, false, 6, -16, -1, -13, 3, -10, 1, -12, 3);
+    }
+
+    private static void filterCase(Due due, boolean decides, int down, int... xy) {
+        OrderJudge x = Due.withPoints(down, xy);
+        if (xy.length == 6) {
             x.side(0, 1, 2);
         } else {
             x.circle(0, 1, 2, 3);
         }
-        tally(due, "floats of " + java.util.Arrays.toString(thirds), x, decides ? 1 : 0, decides ? 0 : 1, 0);
+        tally(due, "floats of " + java.util.Arrays.toString(xy) + " by " + down, x, decides ? 1 : 0, decides ? 0 : 1, 0);
     }
 }
