@@ -18,6 +18,7 @@ public final class SignsTest {
         dividedByTwelve(due);
         orderOfRing(due);
         orderOfTheBound(due);
+        turnBoundIsRounded(due);
         due.end();
     }
 
@@ -236,6 +237,13 @@ public final class SignsTest {
     private static void orderOfTheBound(Due due) {
         filterCase(due, true, 6, 42, -106, 130, -185, 11, -42, 91, -159);
         filterCase(due, false, 6, -16, -1, -13, 3, -10, 1, -12, 3);
+    }
+
+    // SIZE is such that TURN is just the bound, and the bound is rounded up: without that it would be less.
+    private static void turnBoundIsRounded(Due due) {
+        filterCase(due, false, 12, 0, 0, 1, 0, 512, 1);
+        filterCase(due, false, 6, 1, 0, 0, 0, 512, -1);
+        filterCase(due, false, 3, 0, 1, 0, 0, -1, -512);
     }
 
     private static void filterCase(Due due, boolean decides, int down, int... xy) {
